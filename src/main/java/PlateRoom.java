@@ -60,9 +60,6 @@ public final class PlateRoom {
     private int lastStatus;
 
     public PlateRoom() {
-        outLength = 0;
-        plateCount = 0;
-        motifCount = 0;
         lastStatus = FINE;
     }
 
@@ -446,7 +443,6 @@ public final class PlateRoom {
             kinds[count] = kind;
             toldOn[count] = day;
             crossedOn[count] = NONE;
-            limitCounts[count] = 0;
             count++;
             return count - 1;
         }
@@ -545,18 +541,15 @@ public final class PlateRoom {
             if (source < 0 || source >= POINTS) {
                 return false;
             }
-            Arrays.fill(ways, LAST_TIME);
-            ways[ORIGIN] = 0;
-            ways[source] = 0;
+            startAt(source, ORIGIN);
             // A shortest way has fewer arrows than there are points: what still shrinks then never ends.
             for (int round = 0; round <= POINTS; round++) {
-                boolean shrunk = followLimits(ways, ORIGIN);
-                shrunk |= followBounds(ORIGIN);
+                if (!followLimits(ways, ORIGIN)) {
+                    return true;
+                }
+                followBounds(ORIGIN);
                 if (ways[source] < 0) {
                     return false;
-                }
-                if (!shrunk) {
-                    return true;
                 }
             }
             return false;
@@ -565,7 +558,8 @@ public final class PlateRoom {
         /** How many limits the shortest quarrel has; above POINTS, if the facts agree. */
         int fewestLimits() {
             int fewest = POINTS + 1;
-            for (int source = 0; source < POINTS; source++) {
+            // No limit joins two motifs, so no quarrel keeps to points of motifs alone.
+            for (int source = 0; source < FIRST_MOTIF_POINT; source++) {
                 fewest = fewerLimitsThrough(source, fewest);
             }
             return fewest;
@@ -576,22 +570,25 @@ public final class PlateRoom {
          * is enough to seek it from its least point on and among the points not below that one.
          */
         private int fewerLimitsThrough(int source, int fewest) {
-            Arrays.fill(ways, FAR);
-            ways[source] = 0;
-            followBounds(source);
+            startAt(source, source);
             int most = Math.min(fewest - 1, POINTS - source);
             for (int limits = 1; limits <= most; limits++) {
                 System.arraycopy(ways, 0, earlier, 0, POINTS);
-                boolean shrunk = followLimits(earlier, source);
-                shrunk |= followBounds(source);
+                if (!followLimits(earlier, source)) {
+                    return fewest;
+                }
+                followBounds(source);
                 if (ways[source] < 0) {
                     return limits;
                 }
-                if (!shrunk) {
-                    return fewest;
-                }
             }
             return fewest;
+        }
+
+        private void startAt(int source, int lowest) {
+            Arrays.fill(ways, FAR);
+            ways[source] = 0;
+            followBounds(lowest);
         }
 
         /** Shortens ways by one limit behind those in `starts`, among the points from `lowest` on. */
@@ -613,36 +610,24 @@ public final class PlateRoom {
         }
 
         /** Shortens ways by what always holds and is no limit: a motif's order, and 0 to the last time. */
-        private boolean followBounds(int lowest) {
-            boolean shrunk = false;
+        private void followBounds(int lowest) {
             for (int begin = FIRST_MOTIF_POINT; begin < POINTS - 1; begin += 2) {
-                if (begin >= lowest && ways[begin + 1] < ways[begin]) {
-                    ways[begin] = ways[begin + 1];
-                    shrunk = true;
-                }
+                ways[begin] = Math.min(ways[begin], ways[begin + 1]);
             }
             if (lowest == ORIGIN) {
-                shrunk |= followRange();
+                followRange();
             }
-            return shrunk;
         }
 
-        private boolean followRange() {
-            boolean shrunk = false;
-            for (int point = ORIGIN + 1; point < POINTS; point++) {
-                if (ways[point] < ways[ORIGIN]) {
-                    ways[ORIGIN] = ways[point];
-                    shrunk = true;
-                }
+        private void followRange() {
+            int least = ways[ORIGIN];
+            for (int point = 0; point < POINTS; point++) {
+                least = Math.min(least, ways[point]);
             }
-            int most = ways[ORIGIN] + LAST_TIME;
-            for (int point = ORIGIN + 1; point < POINTS; point++) {
-                if (ways[point] > most) {
-                    ways[point] = most;
-                    shrunk = true;
-                }
+            ways[ORIGIN] = least;
+            for (int point = 0; point < POINTS; point++) {
+                ways[point] = Math.min(ways[point], least + LAST_TIME);
             }
-            return shrunk;
         }
     }
 
@@ -657,7 +642,6 @@ public final class PlateRoom {
         private final int[] likeLeft = new int[MOST_PLATES];
         private final int[] leftOf = new int[MOST_PLATES];
         private final int[] rightOf = new int[MOST_PLATES];
-        private final int[] touching = new int[MOST_PLATES];
 
         EdgeTable() {
             for (int plate = 0; plate < MOST_PLATES; plate++) {
@@ -680,23 +664,16 @@ public final class PlateRoom {
             likeLeft[plate] = 1 << plate;
             leftOf[plate] = 0;
             rightOf[plate] = 0;
-            touching[plate] = 1 << plate;
             for (int other = 0; other < MOST_PLATES; other++) {
                 int bit = 1 << other;
                 if (fits(lefts[plate], lefts[other])) {
                     likeLeft[plate] |= bit;
-                    touching[plate] |= bit;
                 }
                 if (fits(lefts[plate], rights[other])) {
                     leftOf[plate] |= bit;
-                    touching[plate] |= bit;
                 }
                 if (fits(rights[plate], lefts[other])) {
                     rightOf[plate] |= bit;
-                    touching[plate] |= bit;
-                }
-                if (fits(rights[plate], rights[other])) {
-                    touching[plate] |= bit;
                 }
             }
         }
@@ -726,14 +703,14 @@ public final class PlateRoom {
             return starts;
         }
 
-        /** The plates of a set that hang together with its least one by like edges. */
+        /** The plates of a set that hang together with its least one: no row goes beyond such a part. */
         private int partOf(int set) {
             int part = set & -set;
             for (int round = 0; round < MOST_PLATES; round++) {
                 int grown = part;
                 for (int plate = 0; plate < MOST_PLATES; plate++) {
                     if (holds(grown, plate)) {
-                        grown |= touching[plate] & set;
+                        grown |= (leftOf[plate] | rightOf[plate]) & set;
                     }
                 }
                 if (grown == part) {

@@ -3,6 +3,7 @@ public final class CopiesAndRightsTest {
     public static void main(String[] args) {
         want();
         best();
+        noneInTime();
         bestOfSeveral();
         hour();
         law();
@@ -80,6 +81,21 @@ public final class CopiesAndRightsTest {
         Check.refused(room, "the less wanted one is left", room.hour(3), 8);
         Check.taken(room, "the long one is in it", room.hour(19), 450);
         Check.taken(room, "best()", room.best(), 1881);
+    }
+
+    private static void noneInTime() {
+        Check.part("23 none in time");
+        PlateRoom room = room(20);
+        for (int k = 0; k < 20; k++) {
+            room.want(k, 99, 50, 49);
+        }
+        Check.taken(room, "best()", room.best(), 0);
+        for (int k = 0; k < 20; k++) {
+            Check.refused(room, "hour(" + k + ")", room.hour(k), 8);
+        }
+        room.want(19, 0, 1, 1);
+        Check.taken(room, "best()", room.best(), 0);
+        Check.taken(room, "hour(19)", room.hour(19), 0);
     }
 
     private static void bestOfSeveral() {

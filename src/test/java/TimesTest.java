@@ -14,6 +14,7 @@ public final class TimesTest {
         taken();
         stood();
         tooManyFacts();
+        allLimits();
         cross();
         fact();
         span();
@@ -265,6 +266,28 @@ public final class TimesTest {
         }
     }
 
+    private static void allLimits() {
+        Check.part("12 to 15 with all limits");
+        PlateRoom room = room(20, 16);
+        for (int k = 0; k < 99; k++) {
+            room.taken(k % 20, k, 1000 + k, k);
+        }
+        room.taken(7, 500, 600, 99);
+        Check.taken(room, "span least", room.span(7, false, 99), 500);
+        Check.taken(room, "span greatest", room.span(7, true, 99), 600);
+        Check.taken(room, "span of another", room.span(18, false, 99), 98);
+        Check.taken(room, "span of another", room.span(18, true, 99), 1018);
+        Check.refused(room, "no quarrel", room.quarrel(99), 6);
+        room = room(20, 16);
+        for (int k = 0; k < 99; k++) {
+            room.stood(k % 16, k % 3 == 0, 10, 20, 0);
+        }
+        room.stood(15, true, 0, 9, 0);
+        Check.taken(room, "a quarrel by the last", room.quarrel(0), 2);
+        Check.taken(room, "frees(99)", room.frees(99, 0), 1);
+        Check.taken(room, "frees(98)", room.frees(98, 0), 0);
+    }
+
     private static void cross() {
         Check.part("10 cross");
         PlateRoom room = room(1, 0);
@@ -353,6 +376,8 @@ public final class TimesTest {
         Check.taken(room, "ended least", room.times(0, true, false, 1), 40);
         room.stood(0, true, 0, 45, 2);
         Check.taken(room, "began greatest", room.times(0, false, true, 2), 45);
+        room.stood(1, false, 10, 100000, 2);
+        Check.taken(room, "ended least by the beginning alone", room.times(1, true, false, 2), 10);
         room.stood(0, true, 0, 39, 3);
         Check.refused(room, "times() of what quarrels", room.times(1, true, true, 3), 5);
     }
@@ -505,6 +530,13 @@ public final class TimesTest {
         room.cross(0, 5);
         room.taken(1, 0, 99999, 5);
         Check.taken(room, "by their spans alone", room.order(1, 2, 5), 2);
+        room.taken(1, 0, 50, 6);
+        room.cross(2, 6);
+        room.taken(2, 49, 49, 6);
+        Check.taken(room, "at the last moment", room.order(2, 1, 6), 1);
+        Check.taken(room, "or ahead", room.order(1, 2, 6), 1);
+        room.taken(1, 0, 49, 7);
+        Check.taken(room, "not ahead by then", room.order(2, 1, 7), 0);
     }
 
     private static void knownOnADay() {
