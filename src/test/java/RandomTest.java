@@ -1,6 +1,6 @@
 import java.util.Random;
 
-/** Random runs (of fixed seeds) with every answer and status against SlowRoom's. */
+/** Random runs (of fixed seeds, below 512 calls each) with every answer and status against SlowRoom's. */
 public final class RandomTest {
     private static final int[] ODD = {-1, -2, 100, 101, 10000, 100001, -100001, 200001, 1 << 20, 1 << 31, 0x7fffffff};
 
@@ -28,9 +28,9 @@ public final class RandomTest {
             Check.part("times, seed " + seed);
             new RandomTest(seed, 1 + seed % 7, seed % 4).run(0, 14, 120);
         }
-        for (int seed = 1; seed <= 25 && Check.wrongSoFar() < 20; seed++) {
+        for (int seed = 1; seed <= 35 && Check.wrongSoFar() < 20; seed++) {
             Check.part("full times, seed " + seed);
-            new RandomTest(seed, 20, 16).run(0, 14, 250);
+            new RandomTest(seed, 20, 16).run(0, 14, 190);
         }
         for (int seed = 1; seed <= 300 && Check.wrongSoFar() < 20; seed++) {
             Check.part("edges, seed " + seed);
@@ -44,9 +44,9 @@ public final class RandomTest {
             Check.part("rights, seed " + seed);
             new RandomTest(seed, 1 + seed % 9, 0).run(22, 25, 150);
         }
-        for (int seed = 1; seed <= 60 && Check.wrongSoFar() < 20; seed++) {
+        for (int seed = 1; seed <= 100 && Check.wrongSoFar() < 20; seed++) {
             Check.part("all, seed " + seed);
-            new RandomTest(seed, 1 + seed % 6, 3).run(0, 25, 300);
+            new RandomTest(seed, 1 + seed % 6, 3).run(0, 25, 180);
         }
         Check.finish();
     }
