@@ -145,7 +145,11 @@ public final class FactBoundsTest {
         room.death(0, 0, 0);
         Check.taken(room, "free(0) by no law", room.free(0, 200000, 9999), 0);
         Check.taken(older, "the older one goes on", older.plate(), 4);
-        Check.due("its OUT", older.out(2), 2);
+        room.plate();
+        Check.taken(room, "row(2)", room.row(2), 1);
+        Check.due("its OUT", room.out(0), 1);
+        Check.due("the older one's OUT", older.out(0), 0);
+        Check.due("the older one's OUT", older.out(2), 2);
     }
 
     private static void atMost20Plates() {

@@ -49,12 +49,13 @@ public final class RightsBoundsTest {
         Twins.refused("law(100001, 50001)", 2, Rooms::furnish, room -> room.law(100001, 50001));
     }
 
+    /** Laws by which a plate is free and is not by turns, so that one that is lost or changed is seen. */
     private static Consumer<PlateRoom> withLaws(int laws) {
         return room -> {
             room.plate();
-            room.death(0, 1000, 0);
+            room.death(0, 0, 0);
             for (int k = 0; k < laws; k++) {
-                room.law(1000 * k, 500);
+                room.law(1000 * k, k % 2 * 50000);
             }
         };
     }
@@ -63,13 +64,16 @@ public final class RightsBoundsTest {
         Check.part("25 at most 10 LAWS");
         PlateRoom room = new PlateRoom();
         withLaws(8).accept(room);
-        Check.taken(room, "law() 8", room.law(8000, 7001));
-        Check.taken(room, "law() 9", room.law(9000, 8001));
+        Check.taken(room, "law() 8", room.law(8000, 8001));
+        Check.taken(room, "law() 9", room.law(9000, 9001));
         Check.taken(room, "the ninth counts", room.free(0, 8000, 0), 0);
         Check.taken(room, "the ninth counts", room.free(0, 8001, 0), 1);
         Check.taken(room, "the tenth counts", room.free(0, 9000, 0), 0);
         Check.taken(room, "the tenth counts", room.free(0, 9001, 0), 1);
         Check.refused(room, "law() 10", room.law(0, 0), 3);
+        Check.refused(room, "law() 10 again", room.law(100000, 50000), 3);
+        Check.taken(room, "the first still counts", room.free(0, 0, 0), 1);
+        Check.taken(room, "the tenth still counts", room.free(0, 9000, 0), 0);
     }
 
     private static void aLawTooMany() {

@@ -11,7 +11,8 @@ final class Twins {
     /** An object is good for 512 calls: the making takes up to 230, each question and its status two. */
     private static final int MOST_ASKED = 130;
     private static final int[] DAYS = {0, 99, 100, 9999};
-    private static final int[] SHOWING_DAYS = {0, 1000, 1999, 2000, 3000, 100000, 150000, 200000};
+    private static final int[] SHOWING_DAYS = {
+        0, 1000, 1999, 2000, 3000, 4000, 5000, 6000, 7000, 8000, 9000, 100000, 150000, 200000};
     private static final int[] KNOWING_DAYS = {0, 20, 9999};
 
     private record Question(String text, boolean hasStatus, Function<PlateRoom, Object> asking) {
