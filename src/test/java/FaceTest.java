@@ -1,7 +1,12 @@
+import java.io.IOException;
 import java.lang.reflect.Constructor;
 import java.lang.reflect.Field;
 import java.lang.reflect.Method;
 import java.lang.reflect.Modifier;
+import java.nio.file.Files;
+import java.nio.file.Path;
+import java.util.ArrayList;
+import java.util.List;
 import java.util.Set;
 import java.util.TreeSet;
 
@@ -16,14 +21,36 @@ public final class FaceTest {
         "boolean want(int,int,int,int)", "int best()", "int hour(int)", "boolean law(int,int)",
         "boolean death(int,int,int)", "int free(int,int,int)"
     };
+    private static final List<String> TEXT = List.of(
+        "public static final int NONE = -1", "public PlateRoom()", "public int status()",
+        "---- TIMES",
+        "public int plate()", "public int motif()", "public int shows(int plate, int motif, int day)",
+        "public int ahead(int a, int b, int n, int day)", "public int same(int a, int b, int day)",
+        "public int taken(int plate, int from, int to, int day)",
+        "public int stood(int motif, boolean end, int from, int to, int day)",
+        "public boolean cross(int fact, int day)", "public int fact(int fact, int what)",
+        "public int span(int plate, boolean greatest, int day)",
+        "public int times(int motif, boolean end, boolean greatest, int day)",
+        "public int quarrel(int day)", "public int frees(int fact, int day)",
+        "public int order(int a, int b, int day)",
+        "---- EDGES",
+        "public boolean edges(int plate, int left, int right)", "public int row(int set)",
+        "public int ring(int set)", "public int rows(int set)", "public int out(int k)",
+        "---- copies",
+        "public boolean want(int plate, int wanted, int hours, int lost)", "public int best()",
+        "public int hour(int plate)",
+        "---- rights",
+        "public boolean law(int from, int days)", "public boolean death(int plate, int day, int told)",
+        "public int free(int plate, int day, int known)");
 
-    public static void main(String[] args) {
+    public static void main(String[] args) throws IOException {
         Check.part("face");
         Check.due("public final class", PlateRoom.class.getModifiers(), Modifier.PUBLIC | Modifier.FINAL);
         methods();
         fields();
         constructors();
         inside();
+        text();
         Check.finish();
     }
 
@@ -88,5 +115,24 @@ public final class FaceTest {
                 Check.due(field + " is no static state", state, false);
             }
         }
+    }
+
+    /** The face as it is written: its order, the names of what is given, and what stands ahead of the calls. */
+    private static void text() throws IOException {
+        List<String> found = new ArrayList<>();
+        for (String line : Files.readAllLines(Path.of("src/main/java/PlateRoom.java"))) {
+            String word = line.trim();
+            if (line.startsWith("    public ")) {
+                found.add(word.replaceAll("( \\{|;)$", ""));
+            } else if (word.startsWith("// ----")) {
+                found.add(word.substring(3));
+            }
+        }
+        // What stands behind the last call is ahead of none.
+        int behind = found.indexOf(TEXT.get(TEXT.size() - 1)) + 1;
+        for (int k = 0; k < TEXT.size(); k++) {
+            Check.due(TEXT.get(k) + " at its place", k < found.size() && TEXT.get(k).equals(found.get(k)), true);
+        }
+        Check.due("nothing between them", behind, TEXT.size());
     }
 }
